@@ -63,16 +63,18 @@ final class Check {
         return desk;
     }
 
+    /** Reads far behind the end too, where every byte is -1. */
     static String printed(TenThousandthDesk desk, int a) {
         StringBuilder text = new StringBuilder();
+        boolean ended = false;
         for (int i = 0; i < 40; i++) {
             int b = desk.print(a, i);
-            if (b == -1) {
-                return text.toString();
+            if (b != -1) {
+                text.append(ended ? " and behind its end " : "").append((char) b);
             }
-            text.append((char) b);
+            ended = b == -1;
         }
-        return "a text without an end";
+        return ended ? text.toString() : text.append(" without an end").toString();
     }
 
     private static String told(Call asked) {

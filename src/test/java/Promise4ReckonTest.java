@@ -1,9 +1,5 @@
-import java.math.BigDecimal;
-import java.math.RoundingMode;
-
 /** Promise 4: sums, differences, products, quotients and rests, exact but for the rounding that is due. */
 public final class Promise4ReckonTest {
-    private static final BigDecimal ONE = new BigDecimal(10000);
     private static final long LIMIT = Check.LIMIT;
 
     public static void main(String[] args) {
@@ -66,7 +62,7 @@ public final class Promise4ReckonTest {
         for (long x : Check.NUMBERS) {
             for (long y : Check.NUMBERS) {
                 for (int op = 0; op <= 4; op++) {
-                    due(check, op, x, y, exact(op, x, y));
+                    due(check, op, x, y, Exact.reckoned(op, x, y));
                 }
             }
         }
@@ -78,7 +74,7 @@ public final class Promise4ReckonTest {
             y = (y * 17 + 600011) % (i % 2 == 0 ? LIMIT : 4000000000L);
             for (int op = 0; op <= 4; op++) {
                 due(check, op, i % 3 == 0 ? -x : x, i % 5 == 0 ? -y : y,
-                        exact(op, i % 3 == 0 ? -x : x, i % 5 == 0 ? -y : y));
+                        Exact.reckoned(op, i % 3 == 0 ? -x : x, i % 5 == 0 ? -y : y));
             }
         }
     }
@@ -89,22 +85,6 @@ public final class Promise4ReckonTest {
         String call = "reckon(2, " + op + ", 0, 1) of " + x + ", " + y;
         check.gives(call, want, () -> desk.reckon(2, op, 0, 1));
         check.registers(call, desk, x, y, want instanceof Long n ? n : 77);
-    }
-
-    private static Object exact(int op, long a, long b) {
-        if (op >= 3 && b == 0) {
-            return Check.UNSUPPORTED;
-        }
-        BigDecimal x = new BigDecimal(a);
-        BigDecimal y = new BigDecimal(b);
-        BigDecimal result = switch (op) {
-            case 0 -> x.add(y);
-            case 1 -> x.subtract(y);
-            case 2 -> x.multiply(y).divide(ONE, 0, RoundingMode.HALF_UP);
-            case 3 -> x.multiply(ONE).divide(y, 0, RoundingMode.HALF_UP);
-            default -> x.subtract(y.multiply(x.divide(y, 0, RoundingMode.FLOOR)));
-        };
-        return result.abs().compareTo(new BigDecimal(LIMIT)) > 0 ? Check.ARITHMETIC : (Object) result.longValueExact();
     }
 
     private static void registersMayBeTheSame(Check check) {

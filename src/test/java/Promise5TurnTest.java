@@ -1,6 +1,3 @@
-import java.math.BigDecimal;
-import java.math.RoundingMode;
-
 /** Promise 5: the hundredth, the greatest whole number not above, the size, and the number turned. */
 public final class Promise5TurnTest {
     private static final long LIMIT = Check.LIMIT;
@@ -10,7 +7,7 @@ public final class Promise5TurnTest {
         writtenOut(check);
         for (long x : Check.NUMBERS) {
             for (int op = 0; op <= 3; op++) {
-                due(check, op, x, exact(op, x));
+                due(check, op, x, Exact.turned(op, x));
             }
         }
         TenThousandthDesk desk = Check.deskWith(0, -12345);
@@ -49,16 +46,6 @@ public final class Promise5TurnTest {
         String call = "turn(1, " + op + ", 0) of " + x;
         check.answers(call, want, () -> desk.turn(1, op, 0));
         check.registers(call, desk, x, want, 78);
-    }
-
-    private static long exact(int op, long n) {
-        BigDecimal x = new BigDecimal(n);
-        return switch (op) {
-            case 0 -> x.divide(new BigDecimal(100), 0, RoundingMode.HALF_UP).longValueExact();
-            case 1 -> x.divide(new BigDecimal(10000), 0, RoundingMode.FLOOR).longValueExact() * 10000;
-            case 2 -> x.abs().longValueExact();
-            default -> x.negate().longValueExact();
-        };
     }
 
     private static void refusesWrongNumbers(Check check) {

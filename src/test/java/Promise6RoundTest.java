@@ -1,6 +1,3 @@
-import java.math.BigDecimal;
-import java.math.RoundingMode;
-
 /** Promise 6: rounding to -9 .. 4 digits behind the point, halves away from 0. */
 public final class Promise6RoundTest {
     private static final long LIMIT = Check.LIMIT;
@@ -10,7 +7,7 @@ public final class Promise6RoundTest {
         writtenOut(check);
         for (long x : Check.NUMBERS) {
             for (int digits = -9; digits <= 4; digits++) {
-                due(check, digits, x, exact(digits, x));
+                due(check, digits, x, Exact.rounded(digits, x));
             }
         }
         TenThousandthDesk desk = Check.deskWith(0, 0, 0, -15000);
@@ -45,10 +42,6 @@ public final class Promise6RoundTest {
         String call = "round(1, 0, " + digits + ") of " + x;
         check.answers(call, want, () -> desk.round(1, 0, digits));
         check.registers(call, desk, x, want, 78);
-    }
-
-    private static long exact(int digits, long n) {
-        return BigDecimal.valueOf(n, 4).setScale(digits, RoundingMode.HALF_UP).movePointRight(4).longValueExact();
     }
 
     private static void refusesWrongNumbers(Check check) {

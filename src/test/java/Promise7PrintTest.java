@@ -1,16 +1,15 @@
-import java.math.BigDecimal;
-
 /** Promise 7: a register's shortest text, byte by byte. */
 public final class Promise7PrintTest {
     public static void main(String[] args) {
         Check check = new Check();
         writtenOut(check);
         for (long n : Check.NUMBERS) {
-            due(check, n, BigDecimal.valueOf(n, 4).stripTrailingZeros().toPlainString());
+            due(check, n, Exact.printed(n));
         }
         for (long n = -20100; n <= 20100; n += 7) {
-            due(check, n, BigDecimal.valueOf(n, 4).stripTrailingZeros().toPlainString());
+            due(check, n, Exact.printed(n));
         }
+        neverPrintsMinusZero(check);
         answersNothingBehindTheEnd(check);
         refusesWrongNumbers(check);
         check.end();
@@ -38,6 +37,16 @@ public final class Promise7PrintTest {
         TenThousandthDesk desk = Check.deskWith(1, 2, 3, 4, 5, 6, 7, n);
         check.same("print of " + n, want, Check.printed(desk, 7));
         check.answers("register after print of " + n, n, () -> desk.get(7));
+    }
+
+    private static void neverPrintsMinusZero(Check check) {
+        TenThousandthDesk desk = Check.deskWith(0, -1, 4999);
+        desk.turn(3, 3, 0);
+        check.same("0 turned", "0", Check.printed(desk, 3));
+        desk.reckon(3, 2, 1, 2);
+        check.same("-0.0001 times 0.4999", "0", Check.printed(desk, 3));
+        desk.round(3, 1, 0);
+        check.same("-0.0001 rounded to whole", "0", Check.printed(desk, 3));
     }
 
     private static void answersNothingBehindTheEnd(Check check) {

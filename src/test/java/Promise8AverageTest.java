@@ -1,6 +1,3 @@
-import java.math.BigDecimal;
-import java.math.RoundingMode;
-
 /** Promise 8: the sum of the first n registers, from left to right, by n. */
 public final class Promise8AverageTest {
     private static final long LIMIT = Check.LIMIT;
@@ -58,21 +55,10 @@ public final class Promise8AverageTest {
                     numbers[r] = Check.NUMBERS[(start + r * step) % all];
                 }
                 for (int n = 1; n <= 8; n++) {
-                    due(check, n, exact(n, numbers), numbers);
+                    due(check, n, Exact.averaged(n, numbers), numbers);
                 }
             }
         }
-    }
-
-    private static Object exact(int n, long[] numbers) {
-        BigDecimal sum = BigDecimal.ZERO;
-        for (int r = 0; r < n; r++) {
-            sum = sum.add(new BigDecimal(numbers[r]));
-            if (sum.abs().compareTo(new BigDecimal(LIMIT)) > 0) {
-                return Check.ARITHMETIC;
-            }
-        }
-        return sum.divide(new BigDecimal(n), 0, RoundingMode.HALF_UP).longValueExact();
     }
 
     private static void due(Check check, int n, Object want, long... numbers) {
